@@ -1,0 +1,86 @@
+import java.io.IOException;
+import java.nio.file.Files;
+import java.nio.file.Path;
+import java.util.ArrayList;
+import java.util.List;
+import java.util.stream.Stream;
+
+/**
+ * The runs under src/test/runs, a file for each promise. A line "-- text" begins a run on a new
+ * object and says what it shows; ".. name" stands for the lines of parts/name.txt; every other line
+ * is a call and the answer that is due. The model that the random runs trust is held to them, too.
+ */
+public final class PromisesTest {
+    private static final int PROMISES = 19;
+    private static final int MOST_CALLS = 512;
+    private static final Path RUNS = Path.of("src/test/runs");
+
+    private final List<String> wrong = new ArrayList<>();
+    private FrozenBranches program;
+    private DocumentModel model;
+    private int calls;
+
+    public static void main(String[] args) throws IOException {
+        PromisesTest test = new PromisesTest();
+        for (int promise = 1; promise <= PROMISES; promise++) {
+            test.check(fileOf(promise));
+        }
+        test.wrong.forEach(System.out::println);
+        if (!test.wrong.isEmpty()) {
+            System.exit(1);
+        }
+    }
+
+    private static Path fileOf(int promise) throws IOException {
+        String start = String.format("%02d-", promise);
+        try (Stream<Path> files = Files.list(RUNS)) {
+            return files.filter(file -> file.getFileName().toString().startsWith(start)).findAny()
+                    .orElseThrow(() -> new IOException("no runs for promise " + promise));
+        }
+    }
+
+    private void check(Path file) throws IOException {
+        String run = "";
+        for (String line : linesOf(file)) {
+            if (line.startsWith("--")) {
+                run = file.getFileName() + " " + line;
+                program = new FrozenBranches();
+                model = new DocumentModel();
+                calls = 0;
+            } else {
+                checkCall(run, line);
+            }
+        }
+    }
+
+    private static List<String> linesOf(Path file) throws IOException {
+        List<String> lines = new ArrayList<>();
+        for (String line : Files.readAllLines(file)) {
+            if (line.startsWith("..")) {
+                lines.addAll(linesOf(RUNS.resolve("parts").resolve(line.substring(2).trim() + ".txt")));
+            } else if (!line.isBlank()) {
+                lines.add(line);
+            }
+        }
+        return lines;
+    }
+
+    private void checkCall(String run, String line) {
+        int end = line.indexOf(')') + 1;
+        Call call = Call.parse(line.substring(0, end));
+        String due = line.substring(end).trim()
+                .replace("MIN", "" + Integer.MIN_VALUE).replace("MAX", "" + Integer.MAX_VALUE);
+        calls++;
+        compare(run, call, "the program", call.on(program), due);
+        compare(run, call, "the model", model.answer(call), due);
+        if (calls > MOST_CALLS) {
+            wrong.add(run + ": more calls than an object is used for");
+        }
+    }
+
+    private void compare(String run, Call call, String who, String got, String due) {
+        if (!got.equals(due)) {
+            wrong.add(run + ": call " + calls + ", " + call + ": " + who + " answered " + got + ", due is " + due);
+        }
+    }
+}
