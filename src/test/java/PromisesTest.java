@@ -6,12 +6,13 @@ import java.util.List;
 import java.util.stream.Stream;
 
 /**
- * The runs under src/test/runs, a file for each promise. A line "-- text" begins a run on a new
+ * The runs under src/test/runs, a file for the document's terms and one for each promise. A line "-- text" begins a run on a new
  * object and says what it shows; ".. name" stands for the lines of parts/name.txt; every other line
  * is a call and the answer that is due. The model that the random runs trust is held to them, too.
  */
 public final class PromisesTest {
-    private static final int PROMISES = 19;
+    private static final int TERMS = 0;
+    private static final int LAST_PROMISE = 19;
     private static final int MOST_CALLS = 512;
     private static final Path RUNS = Path.of("src/test/runs");
 
@@ -22,8 +23,8 @@ public final class PromisesTest {
 
     public static void main(String[] args) throws IOException {
         PromisesTest test = new PromisesTest();
-        for (int promise = 1; promise <= PROMISES; promise++) {
-            test.check(fileOf(promise));
+        for (int number = TERMS; number <= LAST_PROMISE; number++) {
+            test.check(fileOf(number));
         }
         test.wrong.forEach(System.out::println);
         if (!test.wrong.isEmpty()) {
@@ -31,11 +32,11 @@ public final class PromisesTest {
         }
     }
 
-    private static Path fileOf(int promise) throws IOException {
-        String start = String.format("%02d-", promise);
+    private static Path fileOf(int number) throws IOException {
+        String start = String.format("%02d-", number);
         try (Stream<Path> files = Files.list(RUNS)) {
             return files.filter(file -> file.getFileName().toString().startsWith(start)).findAny()
-                    .orElseThrow(() -> new IOException("no runs for promise " + promise));
+                    .orElseThrow(() -> new IOException("no runs with number " + number));
         }
     }
 
