@@ -6,12 +6,12 @@ import java.util.List;
 import java.util.stream.Stream;
 
 /**
- * The runs under src/test/runs, a file for the document's terms and one for each promise. A line "-- text" begins a run on a new
- * object and says what it shows; ".. name" stands for the lines of parts/name.txt; every other line
- * is a call and the answer that is due. The model that the random runs trust is held to them, too.
+ * The runs under src/test/runs: files 00 for what the document says before its promises, and one for
+ * each promise. A line "-- text" begins a run on a new object and says what it shows; ".. name"
+ * stands for the lines of parts/name.txt; every other line is a call and the answer that is due. The
+ * model that the random runs trust is held to them, too.
  */
 public final class PromisesTest {
-    private static final int TERMS = 0;
     private static final int LAST_PROMISE = 19;
     private static final int MOST_CALLS = 512;
     private static final Path RUNS = Path.of("src/test/runs");
@@ -23,8 +23,12 @@ public final class PromisesTest {
 
     public static void main(String[] args) throws IOException {
         PromisesTest test = new PromisesTest();
-        for (int number = TERMS; number <= LAST_PROMISE; number++) {
-            test.check(fileOf(number));
+        List<Path> files = files();
+        for (int number = 0; number <= LAST_PROMISE; number++) {
+            test.checkThatThereIs(files, String.format("%02d-", number));
+        }
+        for (Path file : files) {
+            test.check(file);
         }
         test.wrong.forEach(System.out::println);
         if (!test.wrong.isEmpty()) {
@@ -32,11 +36,15 @@ public final class PromisesTest {
         }
     }
 
-    private static Path fileOf(int number) throws IOException {
-        String start = String.format("%02d-", number);
+    private static List<Path> files() throws IOException {
         try (Stream<Path> files = Files.list(RUNS)) {
-            return files.filter(file -> file.getFileName().toString().startsWith(start)).findAny()
-                    .orElseThrow(() -> new IOException("no runs with number " + number));
+            return files.filter(Files::isRegularFile).sorted().toList();
+        }
+    }
+
+    private void checkThatThereIs(List<Path> files, String start) {
+        if (files.stream().noneMatch(file -> file.getFileName().toString().startsWith(start))) {
+            wrong.add("no runs with number " + start);
         }
     }
 
